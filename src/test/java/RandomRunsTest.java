@@ -1,0 +1,173 @@
+import java.lang.reflect.InvocationTargetException;
+import java.lang.reflect.Method;
+import java.util.Arrays;
+import java.util.HashMap;
+import java.util.Map;
+import java.util.Random;
+
+/** Runs of chance calls, each answered by the class and by the model; then calls with numbers of every size. */
+public final class RandomRunsTest {
+    private static final int CALLS = 512;
+    private static final String[] BUILDING = {"arbor", "arbor", "arbor", "mesh", "mesh", "mesh", "mesh", "epicycle", "epicycle",
+        "escape", "balance", "balance", "barrel", "torque", "torque", "torque", "torque", "dial", "calendar", "calendar",
+        "strike", "chronograph"};
+    private static final String[] GOING = {"run", "run", "run", "run", "run", "shock", "shock", "wind", "press", "press",
+        "press", "correct", "correct", "correct", "trip", "back"};
+    private static final String[] QUESTIONS = {"speed", "state", "tick", "shows", "struck", "hand", "count"};
+    private static final String[] HOUSE = {"teeth", "train", "error", "chain", "size", "size", "limit", "ways", "rate",
+        "rate", "verdict", "change", "change", "change", "merge", "merge", "conflict", "settle", "setting", "version", "never"};
+
+    /** For each call, the least and the greatest of each argument that is drawn most often. */
+    private static final Map<String, int[]> RANGES = new HashMap<>();
+
+    static {
+        RANGES.put("mesh", new int[] {0, 6, 1, 60, 0, 6, 1, 60, 0, 1});
+        RANGES.put("epicycle", new int[] {0, 6, 1, 40, 0, 6, 1, 40, 0, 6});
+        RANGES.put("escape", new int[] {0, 3, 1, 12});
+        RANGES.put("balance", new int[] {1500, 4096, 0, 12, 15000, 65536, 30000, 400000});
+        RANGES.put("barrel", new int[] {-1, 5});
+        RANGES.put("torque", new int[] {0, 8, 2000, 30000});
+        RANGES.put("dial", new int[] {0, 6, 2, 12});
+        RANGES.put("calendar", new int[] {0, 6, 0, 3, 26, 31, 1, 12, 1896, 2030});
+        RANGES.put("strike", new int[] {0, 6, 0, 1});
+        RANGES.put("chronograph", new int[] {0, 2});
+        RANGES.put("run", new int[] {0, 200});
+        RANGES.put("shock", new int[] {-60000, 60000});
+        RANGES.put("wind", new int[] {0, 700});
+        RANGES.put("press", new int[] {0, 3, 0, 2});
+        RANGES.put("correct", new int[] {0, 7, 0, 3, 0, 31});
+        RANGES.put("trip", new int[] {0, 7});
+        RANGES.put("back", new int[] {0, 60});
+        RANGES.put("speed", new int[] {0, 7, 0, 2});
+        RANGES.put("state", new int[] {0, 9});
+        RANGES.put("tick", new int[] {0, 200, 0, 1});
+        RANGES.put("shows", new int[] {0, 7, 0, 9});
+        RANGES.put("struck", new int[] {0, 40, 0, 2});
+        RANGES.put("hand", new int[] {0, 3, 0, 3});
+        RANGES.put("count", new int[] {0, 6});
+        RANGES.put("teeth", new int[] {0, 1, 4, 20, 10, 24});
+        RANGES.put("search", new int[] {1, 400, 1, 60, 1, 2});
+        RANGES.put("train", new int[] {0, 2, 0, 1});
+        RANGES.put("error", new int[] {0, 1});
+        RANGES.put("size", new int[] {-1, 1, 0, 300, -20, 20, -10, 60});
+        RANGES.put("limit", new int[] {0, 1});
+        RANGES.put("ways", new int[] {-800, 300, -300, 800});
+        RANGES.put("rate", new int[] {1, 15, -60, 60});
+        RANGES.put("verdict", new int[] {0, 7});
+        RANGES.put("change", new int[] {0, 3, 0, 4, -2, 2});
+        RANGES.put("merge", new int[] {0, 3});
+        RANGES.put("conflict", new int[] {0, 3, 0, 4});
+        RANGES.put("settle", new int[] {0, 3, 0, 4, 0, 1});
+        RANGES.put("setting", new int[] {-4, 20, 0, 4});
+        RANGES.put("version", new int[] {0, 4});
+        RANGES.put("never", new int[] {0, 4});
+    }
+
+    private static final int[] EDGES = {Integer.MIN_VALUE, Integer.MIN_VALUE + 1, -1000001, -1000000, -10001, -10000, -401, -5,
+        -4, -3, -2, -1, 0, 1, 2, 3, 4, 5, 6, 7, 8, 9, 10, 12, 13, 15, 16, 23, 24, 31, 32, 40, 60, 61, 99, 100, 199, 200, 201, 999,
+        1000, 1001, 2000, 3000, 4096, 4097, 9999, 10000, 20000, 20001, 65536, 65537, 100000, 100001, 1000000, 1000001, 10000000,
+        10000001, Integer.MAX_VALUE - 1, Integer.MAX_VALUE};
+
+    private static Map<String, Method> methodsOf(Class<?> type) {
+        Map<String, Method> all = new HashMap<>();
+        for (Method m : type.getDeclaredMethods()) {
+            boolean face = java.lang.reflect.Modifier.isPublic(m.getModifiers());
+            if (face) {
+                all.put(m.getName(), m);
+            }
+        }
+        return all;
+    }
+
+    private static final Map<String, Method> REAL = methodsOf(WatchHouse.class);
+    private static final Map<String, Method> TOLD = methodsOf(Model.class);
+
+    private static long ask(Method m, Object on, Object[] args) {
+        try {
+            return ((Number) m.invoke(on, args)).longValue();
+        } catch (InvocationTargetException | IllegalAccessException e) {
+            throw new IllegalStateException(m.getName() + Arrays.toString(args), e);
+        }
+    }
+
+    private static String pick(Random r, String[] names) {
+        return names[r.nextInt(names.length)];
+    }
+
+    private static Object[] draw(Random r, String name, int wild) {
+        int n = REAL.get(name).getParameterCount();
+        int[] range = RANGES.get(name);
+        Object[] args = new Object[n];
+        for (int i = 0; i < n; i++) {
+            boolean edge = r.nextInt(100) < wild;
+            args[i] = edge ? EDGES[r.nextInt(EDGES.length)] : range[2 * i] + r.nextInt(range[2 * i + 1] - range[2 * i] + 1);
+        }
+        return args;
+    }
+
+    /** A call that fits what the movement is at, now and then one that does not. */
+    private static String choose(Random r, boolean goes, int call) {
+        int kind = r.nextInt(100);
+        if (kind < 3) {
+            return pick(r, goes ? BUILDING : GOING);
+        }
+        if (kind < 30) {
+            return pick(r, QUESTIONS);
+        }
+        if (kind < 50) {
+            return pick(r, HOUSE);
+        }
+        if (kind == 50 && r.nextInt(12) == 0) {
+            return r.nextBoolean() ? "build" : "search";
+        }
+        return goes ? pick(r, GOING) : call > 40 && r.nextInt(6) == 0 ? "go" : pick(r, BUILDING);
+    }
+
+    private static void compare(int seed, int wild) {
+        Random r = new Random(seed);
+        WatchHouse x = new WatchHouse();
+        Model m = new Model();
+        if (r.nextInt(10) < 8) {
+            for (String name : new String[] {"arbor", "arbor", "arbor", "arbor", "arbor", "arbor", "arbor"}) {
+                both(x, m, seed, name, new Object[0]);
+            }
+        }
+        for (int i = 7; i < CALLS; i++) {
+            String name = choose(r, x.count(6) == 1, i);
+            both(x, m, seed, name, draw(r, name, wild));
+        }
+    }
+
+    private static void both(WatchHouse x, Model m, int seed, String name, Object[] args) {
+        long got = ask(REAL.get(name), x, args);
+        long want = ask(TOLD.get(name), m, args);
+        Due.due(0, "seed " + seed + ": " + name + Arrays.toString(args), got, want);
+    }
+
+    /** What the calls answer is compared elsewhere; here none may throw. */
+    private static void storm(int seed) {
+        Random r = new Random(seed);
+        WatchHouse x = new WatchHouse();
+        String[] names = REAL.keySet().toArray(new String[0]);
+        Arrays.sort(names);
+        for (int i = 0; i < CALLS; i++) {
+            String name = names[r.nextInt(names.length)];
+            Object[] args = new Object[REAL.get(name).getParameterCount()];
+            for (int k = 0; k < args.length; k++) {
+                args[k] = r.nextInt(8) == 0 ? r.nextInt() : EDGES[r.nextInt(EDGES.length)];
+            }
+            ask(REAL.get(name), x, args);
+        }
+    }
+
+    public static void main(String[] args) {
+        int runs = args.length > 0 ? Integer.parseInt(args[0]) : 300;
+        for (int seed = 1; seed <= runs; seed++) {
+            compare(seed, seed % 3 == 0 ? 15 : 4);
+        }
+        for (int seed = 1; seed <= runs; seed++) {
+            storm(seed);
+        }
+        Due.end();
+    }
+}
