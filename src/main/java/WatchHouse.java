@@ -1377,7 +1377,7 @@ public final class WatchHouse {
             ratioBelow = below;
             bestPinions = 0;
             // Trains are tried in the order of preference, so one that is only as good never replaces another.
-            for (int n = 1; n <= most && !isExact(); n++) {
+            for (int n = 1; n <= most && !isPerfect(); n++) {
                 tryWheels(n);
             }
             setError();
@@ -1394,14 +1394,14 @@ public final class WatchHouse {
             }
         }
 
-        private boolean isExact() {
+        private boolean isPerfect() {
             return bestPinions > 0 && bestMiss == 0;
         }
 
         private void tryWheels(int length) {
             int rows = rowsOf(length, wheelsFrom, wheelsTo);
             Arrays.fill(triedWheels, wheelsFrom);
-            for (int i = 0; i < rows && !isExact(); i++) {
+            for (int i = 0; i < rows && !isPerfect(); i++) {
                 tryPinions(length, productOf(triedWheels, length) * ratioBelow);
                 nextRow(triedWheels, length, wheelsTo);
             }

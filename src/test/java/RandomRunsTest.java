@@ -12,7 +12,7 @@ public final class RandomRunsTest {
         "escape", "balance", "balance", "barrel", "torque", "torque", "torque", "torque", "dial", "calendar", "calendar",
         "strike", "chronograph"};
     private static final String[] GOING = {"run", "run", "run", "run", "run", "shock", "shock", "wind", "press", "press",
-        "press", "correct", "correct", "correct", "trip", "back"};
+        "press", "correct", "correct", "correct", "correct", "correct", "trip", "trip", "wind", "back"};
     private static final String[] QUESTIONS = {"speed", "state", "tick", "shows", "struck", "hand", "count"};
     private static final String[] HOUSE = {"teeth", "train", "error", "chain", "size", "size", "limit", "ways", "rate",
         "rate", "verdict", "change", "change", "change", "merge", "merge", "conflict", "settle", "setting", "version", "never"};
@@ -31,16 +31,16 @@ public final class RandomRunsTest {
         RANGES.put("calendar", new int[] {0, 6, 0, 3, 26, 31, 1, 12, 1896, 2030});
         RANGES.put("strike", new int[] {0, 6, 0, 1});
         RANGES.put("chronograph", new int[] {0, 2});
-        RANGES.put("run", new int[] {0, 200});
+        RANGES.put("run", new int[] {0, 300});
         RANGES.put("shock", new int[] {-60000, 60000});
         RANGES.put("wind", new int[] {0, 700});
         RANGES.put("press", new int[] {0, 3, 0, 2});
-        RANGES.put("correct", new int[] {0, 7, 0, 3, 0, 31});
+        RANGES.put("correct", new int[] {0, 7, 0, 3, 0, 12});
         RANGES.put("trip", new int[] {0, 7});
-        RANGES.put("back", new int[] {0, 60});
+        RANGES.put("back", new int[] {0, 150});
         RANGES.put("speed", new int[] {0, 7, 0, 2});
         RANGES.put("state", new int[] {0, 9});
-        RANGES.put("tick", new int[] {0, 200, 0, 1});
+        RANGES.put("tick", new int[] {0, 300, 0, 1});
         RANGES.put("shows", new int[] {0, 7, 0, 9});
         RANGES.put("struck", new int[] {0, 40, 0, 2});
         RANGES.put("hand", new int[] {0, 3, 0, 3});
@@ -127,18 +127,72 @@ public final class RandomRunsTest {
         Random r = new Random(seed);
         WatchHouse x = new WatchHouse();
         Model m = new Model();
-        if (r.nextInt(10) < 8) {
-            for (String name : new String[] {"arbor", "arbor", "arbor", "arbor", "arbor", "arbor", "arbor"}) {
-                both(x, m, seed, name, new Object[0]);
-            }
-        }
-        for (int i = 7; i < CALLS; i++) {
+        int calls = seed % 4 == 0 ? 0 : assemble(r, x, m, seed);
+        for (int i = calls; i < CALLS; i++) {
             String name = choose(r, x.count(6) == 1, i);
             both(x, m, seed, name, draw(r, name, wild));
         }
+        whole(x, m, seed);
     }
 
-    private static void both(WatchHouse x, Model m, int seed, String name, Object[] args) {
+    /** A movement that most often ticks well, of arbors that are all linked: how many calls it took. */
+    private static int assemble(Random r, WatchHouse x, Model m, int seed) {
+        int arbors = 3 + r.nextInt(5);
+        for (int i = 0; i < arbors; i++) {
+            both(x, m, seed, "arbor");
+        }
+        both(x, m, seed, "escape", 0, 1 + r.nextInt(8));
+        for (int i = 1; i < arbors; i++) {
+            int old = r.nextInt(i);
+            int few = 1 + r.nextInt(20);
+            int many = few + r.nextInt(40);
+            int kind = r.nextInt(5);
+            if (kind == 0 && i > 1) {
+                both(x, m, seed, "epicycle", i, few, old, many, (old + 1) % i);
+            } else if (kind == 1 && i > 1) {
+                both(x, m, seed, "epicycle", old, few, (old + 1) % i, many, i);
+            } else {
+                both(x, m, seed, "mesh", old, few, i, many, r.nextInt(2));
+            }
+        }
+        both(x, m, seed, "balance", 1000 + r.nextInt(3097), r.nextInt(6), 10000 + r.nextInt(55536), 500000 + r.nextInt(9000000));
+        for (int k = 0; k <= 8; k++) {
+            both(x, m, seed, "torque", k, 9000 + r.nextInt(2000) - 1000 * k);
+        }
+        both(x, m, seed, "barrel", r.nextInt(arbors + 1) - 1);
+        for (int i = r.nextInt(8); i >= 0; i--) {
+            int on = r.nextInt(arbors);
+            switch (r.nextInt(3)) {
+                case 0 -> both(x, m, seed, "dial", on, 2 + r.nextInt(9));
+                case 1 -> both(x, m, seed, "strike", on, r.nextInt(2));
+                default -> both(x, m, seed, "calendar", on, r.nextInt(4), 20 + r.nextInt(9), 1 + r.nextInt(12),
+                    r.nextInt(4) == 0 ? 9999 : 1890 + r.nextInt(120));
+            }
+        }
+        for (int i = r.nextInt(4); i >= 0; i--) {
+            both(x, m, seed, "chronograph", r.nextInt(3));
+        }
+        both(x, m, seed, "go");
+        both(x, m, seed, "shock", 20000 + r.nextInt(60000));
+        return 50;
+    }
+
+    /** Everything that can be asked of the movement. */
+    private static void whole(WatchHouse x, Model m, int seed) {
+        for (int i = 0; i < 24; i++) {
+            for (int what = 0; what < 10; what++) {
+                both(x, m, seed, "speed", i, what);
+                both(x, m, seed, "shows", i, what);
+                both(x, m, seed, "hand", i, what);
+                both(x, m, seed, "tick", i * 13, what);
+                both(x, m, seed, "struck", i * 3, what);
+                both(x, m, seed, "state", what);
+                both(x, m, seed, "count", what);
+            }
+        }
+    }
+
+    private static void both(WatchHouse x, Model m, int seed, String name, Object... args) {
         long got = ask(REAL.get(name), x, args);
         long want = ask(TOLD.get(name), m, args);
         Due.due(0, "seed " + seed + ": " + name + Arrays.toString(args), got, want);
