@@ -718,7 +718,8 @@ public final class WatchHouse {
             links = 0;
             escape = NO_ARBOR;
             teeth = 0;
-            findSpeeds();
+            locked = false;
+            forgetSpeeds();
         }
 
         boolean hasArbor(int arbor) {
@@ -768,7 +769,7 @@ public final class WatchHouse {
 
         /** How many parts of a turn (1: whole turns) an arbor has done by so many ticks. */
         long turned(int arbor, int ticks, int parts) {
-            if (!hasArbor(arbor) || periods[arbor] <= 0) {
+            if (arbor < 0 || arbor >= MOST_ARBORS || periods[arbor] <= 0) {
                 return 0;
             }
             return parts * Math.abs(above[arbor]) * ticks / periods[arbor];
@@ -776,15 +777,20 @@ public final class WatchHouse {
 
         /** Whether three quarters of an arbor's next turn are done. */
         boolean isNearTurn(int arbor, int ticks) {
-            if (!hasArbor(arbor) || periods[arbor] <= 0) {
+            if (arbor < 0 || arbor >= MOST_ARBORS || periods[arbor] <= 0) {
                 return false;
             }
             return Math.abs(above[arbor]) * ticks % periods[arbor] * 4 >= periods[arbor] * 3;
         }
 
-        private void findSpeeds() {
+        private void forgetSpeeds() {
             Arrays.fill(above, 0);
             Arrays.fill(below, 0);
+            Arrays.fill(periods, 0);
+        }
+
+        private void findSpeeds() {
+            forgetSpeeds();
             if (hasArbor(escape)) {
                 above[escape] = 1;
                 below[escape] = 1;
@@ -1431,9 +1437,13 @@ public final class WatchHouse {
 
         /** The next row by the first number that differs; behind the last one the row stays. */
         private static void nextRow(int[] row, int length, int high) {
-            for (int i = Math.min(length, row.length) - 1; i >= 0; i--) {
+            int end = Math.min(length, row.length);
+            for (int i = end - 1; i >= 0; i--) {
                 if (row[i] < high) {
-                    Arrays.fill(row, i, Math.min(length, row.length), row[i] + 1);
+                    int least = row[i] + 1;
+                    for (int k = i; k < end; k++) {
+                        row[k] = least;
+                    }
                     return;
                 }
             }

@@ -103,9 +103,12 @@ public final class BuildingTest {
         x.escape(0, 1);
         x.torque(0, 1000000);
         x.go();
-        x.shock(1000000);
+        x.shock(1000);
         due(2, "run(1)", x.run(1), 1);
-        due(2, "v without drag and gain", x.state(3), 1000000);
+        due(2, "v without drag and gain", x.state(3), 1000);
+        x.back(0);
+        x.shock(1000000);
+        x.run(1);
         due(2, "x", x.state(2), 1000000);
         x.run(1);
         due(2, "v by stiff 1", x.state(3), 1000000 - (1000000 >> 16));
@@ -199,7 +202,8 @@ public final class BuildingTest {
         due(6, "escape(0, 60)", x.escape(0, 60), 0);
         due(6, "speed(0, 0)", x.speed(0, 0), 1);
         due(6, "escape(1, 1)", x.escape(1, 1), 0);
-        due(6, "the other is none any more", x.speed(0, 1), 0);
+        due(6, "p of the other, which is none any more", x.speed(0, 0), 0);
+        due(6, "q of the other, which is none any more", x.speed(0, 1), 0);
         due(6, "speed(1, 1)", x.speed(1, 1), 1);
         due(6, "go()", x.go(), 1);
         due(6, "escape when it goes", x.escape(0, 1), NO);
@@ -318,6 +322,7 @@ public final class BuildingTest {
         due(12, "strike when full", x.strike(0, 0), FULL);
         due(10, "a bad dial when full", x.dial(0, 0), BAD);
         due(12, "count(2)", x.count(2), 8);
+        due(25, "shows(8, 9) of 8 works", x.shows(8, 9), BAD);
         x.escape(0, 1);
         x.go();
         due(10, "dial when it goes", x.dial(0, 3), NO);
@@ -338,6 +343,7 @@ public final class BuildingTest {
         due(13, "chronograph() the 5th", x.chronograph(0), FULL);
         due(13, "a bad one when full", x.chronograph(3), BAD);
         due(13, "count(3)", x.count(3), 4);
+        due(27, "hand(4, 0) of 4 chronographs", x.hand(4, 0), BAD);
         for (int what = 0; what < 4; what++) {
             due(13, "hand(3, what)", x.hand(3, what), 0);
         }
@@ -364,6 +370,10 @@ public final class BuildingTest {
         due(14, "state(9)", y.state(9), 1);
         due(14, "go() of one that is locked", y.go(), NO);
         due(14, "count(6)", y.count(6), 0);
+        y.build();
+        due(2, "a new one is not locked", y.state(9), 0);
+        y.arbor();
+        due(2, "no speed is known in a new one", y.speed(0, 1), 0);
     }
 
     public static void main(String[] args) {

@@ -44,6 +44,7 @@ public final class GoingTest {
         due(15, "run(60)", x.run(60), 4);
         due(15, "count(4)", x.count(4), 6);
         ofNegativePlace();
+        ticksAtZero();
         dragStops();
         knocks();
         limits();
@@ -59,6 +60,27 @@ public final class GoingTest {
         stateIs(15, x, 0, 2, -1, 0, -1);
         x.run(1);
         stateIs(15, x, 0, 3, 0, 1, -1);
+    }
+
+    /** A tick needs a torque above 0, x that may be 0, and v that may not. */
+    private static void ticksAtZero() {
+        WatchHouse x = started(1, 0, 0, 10000000, 1);
+        x.shock(-5);
+        due(15, "v below 0", x.run(1), 0);
+        x.shock(9);
+        due(15, "x is 0, v above 0", x.run(1), 1);
+        stateIs(15, x, 1, 2, 0, 5, 1);
+        x.shock(-5);
+        due(15, "x is 0, v is 0", x.run(1), 0);
+        stateIs(15, x, 1, 3, 0, 0, 1);
+        x.shock(1);
+        due(15, "v above 0, but the lever is at 1", x.run(1), 0);
+        x.shock(-2);
+        due(15, "x is 0, v is -1", x.run(1), 1);
+        stateIs(15, x, 2, 5, 0, -1, -1);
+        x.shock(2);
+        due(15, "v is 1", x.run(1), 1);
+        stateIs(15, x, 3, 6, 1, 1, 1);
     }
 
     private static void dragStops() {
@@ -221,7 +243,7 @@ public final class GoingTest {
         due(21, "back(1) when it does not go", x.back(1), BAD);
         due(21, "back(-1) when it does not go", x.back(-1), BAD);
         // Every kind of row, and behind each what the movement answers; then back to each of them.
-        long[][] told = new long[10][];
+        long[][] told = new long[11][];
         x = clockwork();
         told[0] = all(x);
         for (int row = 1; row < told.length; row++) {
@@ -229,7 +251,8 @@ public final class GoingTest {
             due(21, "count(4)", x.count(4), row);
             told[row] = all(x);
         }
-        due(21, "back(10)", x.back(10), BAD);
+        due(23, "there were knocks", x.state(7) > 0 ? 1 : 0, 1);
+        due(21, "back(11)", x.back(11), BAD);
         due(21, "back(-1)", x.back(-1), BAD);
         for (int row = told.length - 1; row >= 0; row--) {
             due(21, "back(" + row + ")", x.back(row), 0);
@@ -242,7 +265,7 @@ public final class GoingTest {
             same(x, told[row], row);
         }
         due(21, "the house is left", x.setting(-1, 0) + x.verdict(0) + x.limit(0), 5 + 6 + 7);
-        due(21, "build() tells the rows", x.build(), 9);
+        due(21, "build() tells the rows", x.build(), 10);
     }
 
     private static WatchHouse clockwork() {
@@ -253,13 +276,14 @@ public final class GoingTest {
         x.escape(0, 1);
         x.mesh(0, 1, 1, 2, 1);
         x.barrel(1);
-        x.balance(4096, 3, 1000, 9000000);
+        x.balance(4096, 3, 1000, 200000);
         for (int k = 0; k <= 8; k++) {
             x.torque(k, 9000 - k * 1000);
         }
         x.dial(0, 4);
         x.strike(0, 1);
         x.calendar(1, 0, 28, 2, 2024);
+        x.chronograph(0);
         x.chronograph(2);
         x.go();
         return x;
@@ -268,13 +292,14 @@ public final class GoingTest {
     private static void carry(WatchHouse x, int row) {
         switch (row) {
             case 1 -> x.shock(70000);
-            case 2 -> x.press(0, 0);
+            case 2 -> x.press(1, 0);
             case 3 -> x.run(200);
-            case 4 -> x.press(0, 2);
+            case 4 -> x.press(1, 2);
             case 5 -> x.trip(1);
             case 6 -> x.correct(0, 0, 3);
             case 7 -> x.wind(100);
             case 8 -> x.run(77);
+            case 9 -> x.correct(1, 2, 1);
             default -> {
                 x.shock(-3);
                 x.change(0, 0, 5);
@@ -286,12 +311,12 @@ public final class GoingTest {
     }
 
     private static long[] all(WatchHouse x) {
-        long[] all = new long[400];
+        long[] all = new long[370];
         int n = 0;
         for (int what = 0; what < 10; what++) {
             all[n++] = x.state(what);
             all[n++] = what == 4 ? 0 : x.count(what);
-            all[n++] = x.hand(0, what);
+            all[n++] = x.hand(1, what);
             for (int work = 0; work < 3; work++) {
                 all[n++] = x.shows(work, what);
             }
@@ -324,7 +349,7 @@ public final class GoingTest {
         due(22, "speed(1, 1)", x.speed(1, 1), 4);
         due(22, "speed(2, 0)", x.speed(2, 0), -250);
         due(22, "speed(3, 0)", x.speed(3, 0), 50000);
-        due(22, "speed(4, 0)", x.speed(4, 0), -10000000);
+        due(22, "p of 10000000", x.speed(4, 0), -10000000);
         due(22, "speed(4, 1)", x.speed(4, 1), 1);
         due(22, "speed(4, 2)", x.speed(4, 2), 0);
         due(22, "speed(-1, 0)", x.speed(-1, 0), NONE);
@@ -347,7 +372,28 @@ public final class GoingTest {
         due(22, "speed(4, 2)", x.speed(4, 2), 15000000);
         due(22, "speed(5, 2)", x.speed(5, 2), 0);
         standing();
+        slow();
         threeWays();
+    }
+
+    /** The link with number 0 could not tell its arbor, another one did: then it does not hold. */
+    private static void slow() {
+        WatchHouse x = new WatchHouse();
+        for (int i = 0; i < 6; i++) {
+            x.arbor();
+        }
+        x.mesh(3, 1, 5, 2, 0);
+        x.mesh(0, 1, 1, 200, 0);
+        x.mesh(1, 1, 2, 200, 0);
+        x.mesh(2, 1, 3, 200, 0);
+        x.mesh(3, 160, 4, 200, 0);
+        x.escape(0, 1);
+        due(22, "q of 10000000", x.speed(4, 1), 10000000);
+        due(22, "q beyond 10000000", x.speed(5, 1), 0);
+        due(23, "state(9)", x.state(9), 0);
+        x.mesh(4, 1, 5, 1, 0);
+        due(22, "another link tells it", x.speed(5, 1), 10000000);
+        due(23, "state(9)", x.state(9), 1);
     }
 
     /** An epicycle can hold an arbor still: that is known, and 0 / 1. */
@@ -380,7 +426,7 @@ public final class GoingTest {
             y.arbor();
         }
         y.escape(0, 1);
-        // 1 / (199 * 197 * 193), 1 / (200 * 191 * 187) and what an epicycle makes of them, in 4 links more than it needs
+        // With q of seven figures each, a sum over all three arbors would not be within a long.
         y.mesh(0, 1, 1, 199, 1);
         y.mesh(1, 1, 2, 197, 1);
         y.mesh(2, 1, 3, 193, 1);

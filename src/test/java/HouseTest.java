@@ -220,7 +220,7 @@ public final class HouseTest {
         failed("-121", trial(1, -31, 2, -30, 9, 30, 10, 30, 15, -30), 8);
         // 10 * 100 - 0 and 10 * -100 - 0, the pairs being 0 apart from each other
         failed("1000", trial(3, 100, 4, 100, 5, -100, 6, -100), 0);
-        failed("beyond 1000", trial(3, 100, 4, 100, 5, -101, 6, -100), 16);
+        failed("1001", trial(3, 100, 4, 100, 5, -100, 6, -100, 7, -1), 16);
         failed("180", trial(13, 100, 11, -80), 0);
         failed("181", trial(13, 100, 11, -81), 32);
         failed("-180", trial(13, -100, 11, 80), 0);
@@ -271,6 +271,8 @@ public final class HouseTest {
         versionsAre(x, 0, 0, 0, 0, 0);
         x.change(0, 1, 11);
         x.change(0, 2, 12);
+        x.change(0, 0, 10);
+        x.change(0, 31, 41);
         due(40, "merge(0)", x.merge(0), 0);
         versionsAre(x, 1, 1, 0, 0, 0);
         due(43, "setting(1, 1)", x.setting(1, 1), 11);
@@ -280,7 +282,7 @@ public final class HouseTest {
         due(41, "the same in both is none", x.conflict(1, 2), 0);
         due(40, "merge(1)", x.merge(1), 0);
         versionsAre(x, 2, 1, 2, 0, 0);
-        for (int i = 1; i <= 3; i++) {
+        for (int i : row(0, 1, 2, 3, 31)) {
             due(43, "setting(2, i)", x.setting(2, i), 10 + i);
             due(43, "setting(-2, i)", x.setting(-2, i), 10 + i);
         }
@@ -300,6 +302,9 @@ public final class HouseTest {
         due(40, "merge(1)", x.merge(1), 0);
         due(43, "setting(-2, 3)", x.setting(-2, 3), 99);
         versionsAre(x, 3, 3, 3, 2, 0);
+        due(40, "merge(3)", x.merge(3), 0);
+        due(43, "setting(-4, 31)", x.setting(-4, 31), 41);
+        versionsAre(x, 3, 3, 3, 2, 3);
     }
 
     private static void conflicts() {

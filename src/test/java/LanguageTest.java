@@ -59,6 +59,11 @@ public final class LanguageTest {
             boolean constant = Set.of("BAD", "NO", "FULL", "NONE").contains(f.getName());
             due("rule 1: field " + f.getName(), Modifier.isPrivate(f.getModifiers()) ? 0 : 1, constant ? 1 : 0);
         }
+        long[] constants = {WatchHouse.BAD, WatchHouse.NO, WatchHouse.FULL, WatchHouse.NONE};
+        long[] values = {-1, -2, -3, -9999999};
+        for (int i = 0; i < values.length; i++) {
+            due("the face: constant " + i, constants[i], values[i]);
+        }
         Constructor<?>[] made = WatchHouse.class.getDeclaredConstructors();
         due("rule 1: one constructor", made.length, 1);
         due("rule 1: without arguments", made[0].getParameterCount(), 0);

@@ -198,6 +198,78 @@ public final class RandomRunsTest {
         Due.due(0, "seed " + seed + ": " + name + Arrays.toString(args), got, want);
     }
 
+    /** Links of any teeth, so that speeds come near the greatest that is known, and beyond it. */
+    private static void gearing(int seed) {
+        Random r = new Random(seed);
+        WatchHouse x = new WatchHouse();
+        Model m = new Model();
+        int arbors = 3 + r.nextInt(12);
+        int most = seed % 2 == 0 ? 200 : 9;
+        for (int i = 0; i < arbors; i++) {
+            both(x, m, seed, "arbor");
+        }
+        for (int i = 0; i < 40; i++) {
+            int a = r.nextInt(arbors);
+            int few = 1 + r.nextInt(most);
+            int many = 1 + r.nextInt(most);
+            if (i == 5 || r.nextInt(15) == 0) {
+                both(x, m, seed, "escape", a, 1 + r.nextInt(60));
+            } else if (r.nextInt(3) == 0) {
+                both(x, m, seed, "epicycle", a, few, r.nextInt(arbors), many, r.nextInt(arbors));
+            } else {
+                both(x, m, seed, "mesh", a, few, r.nextInt(arbors), many, r.nextInt(2));
+            }
+            for (int k = 0; k < arbors; k++) {
+                both(x, m, seed, "speed", k, 0);
+                both(x, m, seed, "speed", k, 1);
+            }
+            both(x, m, seed, "state", 9);
+        }
+        both(x, m, seed, "go");
+    }
+
+    /** The house's own calls alone, of few benches and settings, so that conflicts are many. */
+    private static void house(int seed) {
+        Random r = new Random(seed);
+        WatchHouse x = new WatchHouse();
+        Model m = new Model();
+        for (int i = 0; i < CALLS; i++) {
+            int bench = r.nextInt(3);
+            int setting = r.nextInt(3);
+            switch (r.nextInt(12)) {
+                case 0, 1, 2 -> both(x, m, seed, "change", bench, setting, r.nextInt(5) - 2);
+                case 3, 4 -> both(x, m, seed, "merge", bench);
+                case 5, 6 -> both(x, m, seed, "settle", bench, setting, r.nextInt(2));
+                case 7 -> both(x, m, seed, "conflict", bench, setting);
+                case 8 -> both(x, m, seed, "setting", x.version(0) + r.nextInt(5) - 4, setting);
+                case 9 -> both(x, m, seed, "setting", -1 - bench, setting);
+                case 10 -> trainOrChain(r, x, m, seed);
+                default -> {
+                    String name = pick(r, HOUSE);
+                    both(x, m, seed, name, draw(r, name, 3));
+                }
+            }
+        }
+    }
+
+    private static void trainOrChain(Random r, WatchHouse x, Model m, int seed) {
+        if (r.nextInt(4) == 0) {
+            int low = 4 + r.nextInt(30);
+            both(x, m, seed, "teeth", r.nextInt(2), low, low + r.nextInt(8));
+            both(x, m, seed, "search", 1 + r.nextInt(300), 1 + r.nextInt(60), 1 + r.nextInt(r.nextInt(8) == 0 ? 3 : 2));
+            for (int k = 0; k < 4; k++) {
+                both(x, m, seed, "train", k, 0);
+                both(x, m, seed, "train", k, 1);
+                both(x, m, seed, "error", k);
+            }
+        } else {
+            int least = r.nextInt(41) - 20;
+            both(x, m, seed, "size", r.nextBoolean() ? 1 : -1, r.nextInt(300), least, least + r.nextInt(40));
+            both(x, m, seed, "limit", r.nextInt(2));
+            both(x, m, seed, "ways", x.limit(0) + r.nextInt(20), x.limit(1) - r.nextInt(20));
+        }
+    }
+
     /** What the calls answer is compared elsewhere; here none may throw. */
     private static void storm(int seed) {
         Random r = new Random(seed);
@@ -220,6 +292,8 @@ public final class RandomRunsTest {
             compare(seed, seed % 3 == 0 ? 15 : 4);
         }
         for (int seed = 1; seed <= runs; seed++) {
+            gearing(seed);
+            house(seed);
             storm(seed);
         }
         Due.end();

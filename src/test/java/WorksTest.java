@@ -155,6 +155,17 @@ public final class WorksTest {
         due(25, "shows(3, 9): it was never tripped", x.shows(3, 9), 0);
     }
 
+    private static void barredByTenths() {
+        WatchHouse x = Due.oneArbor(5);
+        x.calendar(0, 3, 1, 1, 2000);
+        x.go();
+        x.shock(50000);
+        for (int tick = 1; tick <= 20; tick++) {
+            Due.runToTick(x, tick);
+            due(25, "shows(0, 8) at " + tick + "/10", x.shows(0, 8), tick % 10 >= 8 ? 1 : 0);
+        }
+    }
+
     private static void trips() {
         WatchHouse x = Due.oneArbor(1);
         x.strike(0, 0);
@@ -257,7 +268,8 @@ public final class WorksTest {
     /** A calendar of each kind from many first days, against the library's days. */
     private static void calendars() {
         int[][] first = {{27, 1, 2023}, {28, 2, 1900}, {27, 2, 2000}, {26, 2, 2024}, {27, 4, 1999}, {25, 6, 1}, {29, 9, 400},
-            {28, 11, 9999}, {20, 12, 9999}, {24, 12, 2023}, {29, 2, 2096}, {31, 7, 2100}};
+            {28, 11, 9999}, {20, 12, 9999}, {24, 12, 2023}, {29, 2, 2096}, {31, 7, 2100},
+            {27, 1, 2001}, {26, 2, 401}};
         for (int[] f : first) {
             WatchHouse x = Due.oneArbor(1);
             x.arbor();
@@ -386,6 +398,7 @@ public final class WorksTest {
     public static void main(String[] args) {
         presses();
         corrections();
+        barredByTenths();
         trips();
         tripped();
         manyStrikes();
