@@ -24,6 +24,10 @@ public final class WatchHouse {
     private final Escapement escapement = new Escapement();
     private final Gears gears = escapement.gears;
     private final Work[] works = new Work[MOST_WORKS];
+    // All memory is made once: a work of some number is one of these, and works tells which.
+    private final Dial[] dials = new Dial[MOST_WORKS];
+    private final Calendar[] calendars = new Calendar[MOST_WORKS];
+    private final Strike[] strikers = new Strike[MOST_WORKS];
     private final Chronograph[] chronographs = new Chronograph[MOST_CHRONOGRAPHS];
     private final Rows strikes = new Rows(3, STRIKE_ROWS);
     private final Rows book = new Rows(4, BOOK_ROWS);
@@ -37,6 +41,14 @@ public final class WatchHouse {
     private final Benches benches = new Benches();
 
     public WatchHouse() {
+        for (int i = 0; i < MOST_WORKS; i++) {
+            dials[i] = new Dial();
+            calendars[i] = new Calendar();
+            strikers[i] = new Strike();
+        }
+        for (int i = 0; i < MOST_CHRONOGRAPHS; i++) {
+            chronographs[i] = new Chronograph();
+        }
         clearMovement();
     }
 
@@ -124,21 +136,45 @@ public final class WatchHouse {
         if (!gears.hasArbor(arbor) || !isWithin(marks, 2, 1000)) {
             return BAD;
         }
-        return goes ? NO : hang(new Dial(arbor, marks));
+        if (goes) {
+            return NO;
+        }
+        Dial dial = workCount < MOST_WORKS ? dials[workCount] : null;
+        if (dial == null) {
+            return FULL;
+        }
+        dial.begin(marks);
+        return hang(dial, arbor);
     }
 
     public int calendar(int arbor, int kind, int day, int month, int year) {
         if (!gears.hasArbor(arbor) || !isWithin(kind, 0, 3) || !Calendar.isDay(day, month, year)) {
             return BAD;
         }
-        return goes ? NO : hang(new Calendar(arbor, kind, day, month, year));
+        if (goes) {
+            return NO;
+        }
+        Calendar calendar = workCount < MOST_WORKS ? calendars[workCount] : null;
+        if (calendar == null) {
+            return FULL;
+        }
+        calendar.begin(kind, day, month, year);
+        return hang(calendar, arbor);
     }
 
     public int strike(int arbor, int kind) {
         if (!gears.hasArbor(arbor) || !isWithin(kind, 0, 1)) {
             return BAD;
         }
-        return goes ? NO : hang(new Strike(arbor, kind, workCount, strikes));
+        if (goes) {
+            return NO;
+        }
+        Strike strike = workCount < MOST_WORKS ? strikers[workCount] : null;
+        if (strike == null) {
+            return FULL;
+        }
+        strike.begin(kind);
+        return hang(strike, arbor);
     }
 
     public int chronograph(int kind) {
@@ -148,10 +184,11 @@ public final class WatchHouse {
         if (goes) {
             return NO;
         }
-        if (chronographCount >= MOST_CHRONOGRAPHS) {
+        Chronograph chronograph = chronographCount < MOST_CHRONOGRAPHS ? chronographs[chronographCount] : null;
+        if (chronograph == null) {
             return FULL;
         }
-        chronographs[chronographCount] = new Chronograph(kind);
+        chronograph.begin(kind);
         return chronographCount++;
     }
 
@@ -476,12 +513,6 @@ public final class WatchHouse {
     private void clearMovement() {
         gears.clear();
         escapement.clear();
-        for (int i = 0; i < MOST_WORKS; i++) {
-            works[i] = null;
-        }
-        for (int i = 0; i < MOST_CHRONOGRAPHS; i++) {
-            chronographs[i] = null;
-        }
         workCount = 0;
         chronographCount = 0;
         strikes.told = 0;
@@ -496,8 +527,7 @@ public final class WatchHouse {
         for (int i = 0; i < workCount; i++) {
             Work work = workAt(i);
             if (work != null) {
-                work.trips = 0;
-                work.restart();
+                renew(work);
             }
         }
         for (int i = 0; i < chronographCount; i++) {
@@ -516,13 +546,17 @@ public final class WatchHouse {
         return isWithin(i, 0, chronographCount - 1) ? chronographs[i] : null;
     }
 
-    private int hang(Work work) {
-        if (workCount >= MOST_WORKS) {
-            return FULL;
-        }
-        work.restart();
+    /** Hangs the work that bears the next number; there is room for it. */
+    private int hang(Work work, int arbor) {
+        work.arbor = arbor;
+        renew(work);
         works[workCount] = work;
         return workCount++;
+    }
+
+    private static void renew(Work work) {
+        work.trips = 0;
+        work.restart();
     }
 
     private boolean isBarred(Work work) {
@@ -579,7 +613,10 @@ public final class WatchHouse {
             Work work = works[i];
             if (work != null && gears.turned(work.arbor, ticks, 1) > gears.turned(work.arbor, ticks - 1, 1)) {
                 work.trips++;
-                work.advance(ticks);
+                work.advance();
+                if (work instanceof Strike tripped && !tripped.isSilent()) {
+                    tellStrike(i, tripped);
+                }
             }
         }
     }
@@ -599,10 +636,17 @@ public final class WatchHouse {
     }
 
     private int strikeNow(int work) {
-        if (workAt(work) instanceof Strike asked) {
-            return asked.sound(escapement.ticks);
-        }
-        return BAD;
+        return workAt(work) instanceof Strike asked ? tellStrike(work, asked) : BAD;
+    }
+
+    /** A strike strikes, and a row of that is told: how often. */
+    private int tellStrike(int work, Strike striking) {
+        int times = striking.sound();
+        int row = strikes.open();
+        strikes.write(row, 0, escapement.ticks);
+        strikes.write(row, 1, work);
+        strikes.write(row, 2, times);
+        return times;
     }
 
     private int trialNumber(int k) {
@@ -997,17 +1041,13 @@ public final class WatchHouse {
 
     /** What hangs on an arbor and is tripped by its turns. */
     private abstract static class Work {
-        final int arbor;
+        int arbor;
         int trips;
-
-        Work(int arbor) {
-            this.arbor = arbor;
-        }
 
         /** As it was when it was built. */
         abstract void restart();
 
-        abstract void advance(int ticks);
+        abstract void advance();
 
         /** Whether it can be corrected to v in this. */
         abstract boolean takes(int what, int v);
@@ -1019,11 +1059,10 @@ public final class WatchHouse {
     }
 
     private static final class Dial extends Work {
-        private final int marks;
+        private int marks;
         private int mark;
 
-        Dial(int arbor, int marks) {
-            super(arbor);
+        void begin(int marks) {
             this.marks = marks;
         }
 
@@ -1033,7 +1072,7 @@ public final class WatchHouse {
         }
 
         @Override
-        void advance(int ticks) {
+        void advance() {
             mark = mark < marks - 1 ? mark + 1 : 0;
         }
 
@@ -1057,10 +1096,10 @@ public final class WatchHouse {
         private static final int LAST_YEAR = 9999;
         private static final int TRUE_KIND = 3;
 
-        private final int kind;
-        private final int firstDay;
-        private final int firstMonth;
-        private final int firstYear;
+        private int kind;
+        private int firstDay;
+        private int firstMonth;
+        private int firstYear;
         private int day;
         private int month;
         private int year;
@@ -1070,8 +1109,7 @@ public final class WatchHouse {
         private int trueYear;
         private int wrongs;
 
-        Calendar(int arbor, int kind, int day, int month, int year) {
-            super(arbor);
+        void begin(int kind, int day, int month, int year) {
             this.kind = kind;
             firstDay = day;
             firstMonth = month;
@@ -1118,7 +1156,7 @@ public final class WatchHouse {
         }
 
         @Override
-        void advance(int ticks) {
+        void advance() {
             advanceTrue();
             advanceShown();
             if (day != trueDay || month != trueMonth) {
@@ -1198,18 +1236,17 @@ public final class WatchHouse {
     }
 
     private static final class Strike extends Work {
-        private final int kind;
-        private final int number;
-        private final Rows rows;
+        private int kind;
         private int hour;
         private int place;
         private int silent;
 
-        Strike(int arbor, int kind, int number, Rows rows) {
-            super(arbor);
+        void begin(int kind) {
             this.kind = kind;
-            this.number = number;
-            this.rows = rows;
+        }
+
+        boolean isSilent() {
+            return silent == 1;
         }
 
         @Override
@@ -1220,24 +1257,17 @@ public final class WatchHouse {
         }
 
         @Override
-        void advance(int ticks) {
+        void advance() {
             hour = nextOfTwelve(hour);
-            if (silent == 0) {
-                sound(ticks);
-            }
         }
 
         /** Strikes: how often. */
-        int sound(int ticks) {
-            int times = hour;
-            if (kind == 1) {
-                times = place;
-                place = nextOfTwelve(place);
+        int sound() {
+            if (kind == 0) {
+                return hour;
             }
-            int row = rows.open();
-            rows.write(row, 0, ticks);
-            rows.write(row, 1, number);
-            rows.write(row, 2, times);
+            int times = place;
+            place = nextOfTwelve(place);
             return times;
         }
 
@@ -1280,14 +1310,15 @@ public final class WatchHouse {
         private static final int ZERO = 0, RUNS = 1, STOPPED = 2;
         private static final int FLYBACK = 1, SPLIT = 2;
 
-        private final int kind;
+        private int kind;
         int state;
         int counted;
         int split;
         boolean held;
 
-        Chronograph(int kind) {
+        void begin(int kind) {
             this.kind = kind;
+            restart();
         }
 
         void restart() {

@@ -26,6 +26,16 @@ public final class LanguageTest {
         "ways(int,int):long", "rate(int,int)", "verdict(int)", "change(int,int,int)", "merge(int)", "conflict(int,int)",
         "settle(int,int,int)", "setting(int,int)", "version(int)", "never(int)"};
 
+    /** The document numbers its promises as it tells its face, the constructor being the first. */
+    static int promiseOf(String name) {
+        for (int i = 0; i < FACE.length; i++) {
+            if (FACE[i].startsWith(name + "(")) {
+                return i + 2;
+            }
+        }
+        return 0;
+    }
+
     private static void due(String what, long got, long want) {
         Due.due(0, what, got, want);
     }

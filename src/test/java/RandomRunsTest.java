@@ -81,6 +81,11 @@ public final class RandomRunsTest {
 
     private static final Map<String, Method> REAL = methodsOf(WatchHouse.class);
     private static final Map<String, Method> TOLD = methodsOf(Model.class);
+    private static final Map<String, Integer> PROMISES = new HashMap<>();
+
+    static {
+        REAL.keySet().forEach(name -> PROMISES.put(name, LanguageTest.promiseOf(name)));
+    }
 
     private static long ask(Method m, Object on, Object[] args) {
         try {
@@ -195,7 +200,7 @@ public final class RandomRunsTest {
     private static void both(WatchHouse x, Model m, int seed, String name, Object... args) {
         long got = ask(REAL.get(name), x, args);
         long want = ask(TOLD.get(name), m, args);
-        Due.due(0, "seed " + seed + ": " + name + Arrays.toString(args), got, want);
+        Due.due(PROMISES.get(name), "seed " + seed + ": " + name + Arrays.toString(args), got, want);
     }
 
     /** Links of any teeth, so that speeds come near the greatest that is known, and beyond it. */
