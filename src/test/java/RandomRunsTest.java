@@ -134,6 +134,11 @@ public final class RandomRunsTest {
         Model m = new Model();
         int calls = seed % 4 == 0 ? 0 : assemble(r, x, m, seed);
         for (int i = calls; i < CALLS; i++) {
+            if (i == CALLS / 2 && seed % 3 == 0) {
+                // What the old movement was must not shine through in the next one.
+                both(x, m, seed, "build");
+                assemble(r, x, m, seed);
+            }
             String name = choose(r, x.count(6) == 1, i);
             both(x, m, seed, name, draw(r, name, wild));
         }
