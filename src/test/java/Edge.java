@@ -1,13 +1,16 @@
 import java.io.IOException;
 import java.nio.file.Files;
 import java.nio.file.Path;
+import java.util.BitSet;
 import java.util.HashSet;
 import java.util.Set;
 import java.util.function.Supplier;
+import java.util.regex.Matcher;
+import java.util.regex.Pattern;
 
 /**
- * What the tests of boundaries share. Each of them quotes the sentence that it tests: a quote that the document does
- * not have under that promise or in its terms fails, and so does a promise that no quote belongs to.
+ * What the tests of the document's sentences share. Each of them quotes the words that it tests: a quote that the
+ * document does not have under that promise or in its terms fails, and so do words of the document that none quotes.
  */
 final class Edge {
     static final int BAD = WatchHouse.BAD, NO = WatchHouse.NO, FULL = WatchHouse.FULL, NONE = WatchHouse.NONE;
@@ -17,6 +20,9 @@ final class Edge {
     private static final int[] ANSWERS = {BAD, NO, FULL, NONE};
 
     private static final String DOCUMENT = readDocument();
+    /** Headings, the signatures behind them, and the marks that set parts apart: there is nothing in these to test. */
+    private static final Pattern HEADINGS = Pattern.compile("## Terms|## Promise \\d+: [\\w ]+`[^`]+`:|======== \\d( GOING\\.| BENCHES\\.)?|```text|```");
+    private static final BitSet quotedAt = new BitSet();
     private static final Set<Integer> quoted = new HashSet<>();
     private static final Set<String> answered = new HashSet<>();
     private static int promise;
@@ -42,14 +48,25 @@ final class Edge {
         }
     }
 
-    private static String between(String from, String to) {
-        int start = DOCUMENT.indexOf(from);
-        int end = start < 0 ? -1 : DOCUMENT.indexOf(to, start);
-        return end < 0 ? "" : DOCUMENT.substring(start, end);
+    /** Where a promise begins in the document; 0: the terms that stand ahead of them. */
+    private static int startOf(int number) {
+        String heading = number == 0 ? "## Terms" : number > PROMISES ? "## Not promised" : "## Promise " + number + ": ";
+        return DOCUMENT.indexOf(heading);
     }
 
     private static String textOf(int number) {
-        return between("## Promise " + number + ": ", number < PROMISES ? "## Promise " + (number + 1) + ": " : "## Not promised");
+        return DOCUMENT.substring(startOf(number), startOf(number + 1));
+    }
+
+    /** Marks the words as quoted where a promise, or the terms (0), have them: whether they do. */
+    private static boolean quote(int number, String words) {
+        int end = startOf(number + 1);
+        boolean found = false;
+        for (int at = DOCUMENT.indexOf(words, startOf(number)); at >= 0 && at < end; at = DOCUMENT.indexOf(words, at + 1)) {
+            quotedAt.set(at, at + words.length());
+            found = true;
+        }
+        return found;
     }
 
     /** What is asked from here on belongs to these words of a promise, or of the terms that it uses. */
@@ -57,8 +74,7 @@ final class Edge {
         promise = number;
         sentence = words;
         quoted.add(number);
-        boolean told = textOf(number).contains(words) || between("## Terms", "## Promise 1: ").contains(words);
-        due("the quote is in the document", told ? 1 : 0, 1);
+        due("the quote is in the document", quote(number, words) || quote(0, words) ? 1 : 0, 1);
     }
 
     static void due(String call, long got, long want) {
@@ -113,7 +129,25 @@ final class Edge {
                 }
             }
         }
+        allIsQuoted();
         Due.end();
+    }
+
+    private static void allIsQuoted() {
+        Matcher heading = HEADINGS.matcher(DOCUMENT);
+        while (heading.find()) {
+            quotedAt.set(heading.start(), heading.end());
+        }
+        for (int number = 0; number <= PROMISES; number++) {
+            int end = startOf(number + 1);
+            int to;
+            for (int from = quotedAt.nextClearBit(startOf(number)); from < end; from = quotedAt.nextClearBit(to)) {
+                int next = quotedAt.nextSetBit(from);
+                to = next < 0 || next > end ? end : next;
+                String words = DOCUMENT.substring(from, to);
+                Due.due(number, "no test quotes '" + words + "'", words.matches("[\\s.,;:()]*") ? 0 : 1, 0);
+            }
+        }
     }
 
     // ---- objects that many tests begin with
@@ -150,6 +184,19 @@ final class Edge {
         x.shock(50000);
         Due.runToTick(x, ticks);
         return x;
+    }
+
+    /**
+     * So many ticks, one by each step, of the first balance: x is 1000000 behind odd ones and 0 behind even ones. A tick
+     * takes three rows of the book.
+     */
+    static void beat(WatchHouse x, int ticks) {
+        for (int i = 0; i < ticks; i++) {
+            int push = x.state(4) < 0 ? 1000000 : -1000000;
+            x.shock(push);
+            x.shock(push);
+            x.run(1);
+        }
     }
 
     /** Rows that change nothing, until the book is full. */

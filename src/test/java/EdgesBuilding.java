@@ -100,12 +100,14 @@ final class EdgesBuilding {
     private static void memoryIsMadeOnce() {
         says(1, "All memory is the class's own, made once.");
         WatchHouse x = new WatchHouse();
-        // The first times the machine itself makes room, for what it loads and links.
-        for (int i = 0; i < 3; i++) {
-            roomTaken(x, true);
-            roomTaken(x, false);
+        // At times the machine itself makes room, for what it loads and links: what calls take is taken every time.
+        long used = Long.MAX_VALUE;
+        long unused = Long.MAX_VALUE;
+        for (int i = 0; i < 8; i++) {
+            used = Math.min(used, roomTaken(x, true));
+            unused = Math.min(unused, roomTaken(x, false));
         }
-        due("bytes that calls take of the machine, beyond those of asking for them", roomTaken(x, true) - roomTaken(x, false), 0);
+        due("bytes that calls take of the machine, beyond those of asking for them", used - unused, 0);
     }
 
     private static long roomTaken(WatchHouse x, boolean used) {
@@ -424,7 +426,7 @@ final class EdgesBuilding {
     }
 
     private static void balances() {
-        says(7, "stiff is not 1 .. 4096");
+        says(7, "BAD: stiff is not 1 .. 4096");
         Edge.range("balance(stiff, 0, 0, 1)", 1, 4096, 0, EdgesBuilding::balanced, (x, v) -> x.balance(v, 0, 0, 1));
         says(7, "drag not 0 .. 1000");
         Edge.range("balance(1, drag, 0, 1)", 0, 1000, 0, EdgesBuilding::balanced, (x, v) -> x.balance(1, v, 0, 1));
@@ -476,7 +478,7 @@ final class EdgesBuilding {
     }
 
     private static void torques() {
-        says(9, "k is not 0 .. 8");
+        says(9, "BAD: k is not 0 .. 8");
         Edge.range("torque(k, 7)", 0, 8, 0, () -> Edge.arbors(1), (x, v) -> x.torque(v, 7));
         says(9, "v not 0 .. 1000000");
         Edge.range("torque(8, v)", 0, 1000000, 0, () -> Edge.arbors(1), (x, v) -> x.torque(8, v));

@@ -732,7 +732,7 @@ final class EdgesGoing {
     // ---- 24
 
     private static void tickRows() {
-        says(24, "none such, i is not below 3000, or no such what");
+        says(24, "BAD: none such, i is not below 3000, or no such what");
         WatchHouse x = Edge.ticked(Due.oneArbor(1), 3);
         Edge.question("tick(i, 0) of 3", 0, 2, BAD, x, (y, v) -> y.tick(v, 0));
         Edge.question("tick(i, 1) of 3", 0, 2, BAD, x, (y, v) -> y.tick(v, 1));

@@ -48,7 +48,7 @@ final class EdgesHouse {
     // ---- 29
 
     private static void teeth() {
-        says(29, "kind is not 0, 1");
+        says(29, "BAD: kind is not 0, 1");
         Edge.range("teeth(kind, 30, 31)", 0, 1, 0, EdgesHouse::furnished, (x, v) -> x.teeth(v, 30, 31));
         for (int kind = 0; kind <= 1; kind++) {
             int of = kind;
@@ -91,7 +91,7 @@ final class EdgesHouse {
     // ---- 30
 
     private static void searchNumbers() {
-        says(30, "above or below is not 1 .. 100000");
+        says(30, "BAD: above or below is not 1 .. 100000");
         Edge.range("search(above, 1, 1)", 1, 100000, 1, EdgesHouse::furnished, (x, v) -> x.search(v, 1, 1));
         Edge.range("search(1, below, 1)", 1, 100000, 1, EdgesHouse::furnished, (x, v) -> x.search(1, v, 1));
         says(30, "stages not 1 .. 3");
@@ -259,7 +259,7 @@ final class EdgesHouse {
     }
 
     private static void sizes() {
-        says(34, "sign is not 1, -1");
+        says(34, "BAD: sign is not 1, -1");
         for (int sign : new int[] {0, 2, -2, Edge.LEAST, Edge.MOST}) {
             refuses("size(" + sign + ", 0, 0, 0)", BAD, EdgesHouse::furnished, x -> x.size(sign, 0, 0, 0));
         }
@@ -580,7 +580,7 @@ final class EdgesHouse {
     }
 
     private static void conflicts() {
-        says(41, "no such bench, setting");
+        says(41, "BAD: no such bench, setting");
         Edge.question("conflict(bench, 4)", 0, 3, BAD, furnished(), (x, v) -> x.conflict(v, 4));
         Edge.question("conflict(1, setting)", 0, 31, BAD, furnished(), (x, v) -> x.conflict(1, v));
         says(41, "Whether a setting is a conflict of a bench now: 1, else 0.");

@@ -295,7 +295,7 @@ final class EdgesWorks {
     // ---- 25
 
     private static void showsOfNone() {
-        says(25, "no such work, or what");
+        says(25, "BAD: no such work, or what");
         WatchHouse x = works(5);
         Edge.question("shows(work, 9)", 0, 3, BAD, x, (y, v) -> y.shows(v, 9));
         due("shows(0, 9) without works", Edge.going(1).shows(0, 9), BAD);
@@ -601,7 +601,7 @@ final class EdgesWorks {
     }
 
     private static void strikeRows() {
-        says(26, "none such, i is not below 1000, or no such what");
+        says(26, "BAD: none such, i is not below 1000, or no such what");
         WatchHouse x = ringing(1);
         Edge.question("struck(i, 2) of 8", 0, 7, BAD, x, (y, v) -> y.struck(v, 2));
         Edge.question("struck(0, what)", 0, 2, BAD, x, (y, v) -> y.struck(0, v));
@@ -643,7 +643,7 @@ final class EdgesWorks {
     }
 
     private static void hands() {
-        says(27, "no such chronograph, or what");
+        says(27, "BAD: no such chronograph, or what");
         WatchHouse x = chronographs(RUNS, true);
         Edge.question("hand(chronograph, 0)", 0, 2, BAD, x, (y, v) -> y.hand(v, 0));
         Edge.question("hand(0, what)", 0, 3, BAD, x, (y, v) -> y.hand(0, v));
