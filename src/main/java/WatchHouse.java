@@ -605,7 +605,7 @@ public final class WatchHouse {
         for (int i = 0; i < chronographCount; i++) {
             Chronograph chronograph = chronographs[i];
             if (chronograph != null) {
-                chronograph.passTick();
+                chronograph.countTick();
             }
         }
         int ticks = escapement.ticks;
@@ -1327,7 +1327,7 @@ public final class WatchHouse {
             setCount(0);
         }
 
-        void passTick() {
+        void countTick() {
             if (state == RUNS) {
                 setCount(counted + 1);
             }

@@ -8,8 +8,10 @@ import java.nio.file.Path;
 import java.util.ArrayDeque;
 import java.util.Collections;
 import java.util.Deque;
+import java.util.HashMap;
 import java.util.HashSet;
 import java.util.IdentityHashMap;
+import java.util.Map;
 import java.util.Set;
 import java.util.TreeSet;
 import java.util.regex.Matcher;
@@ -118,6 +120,35 @@ public final class LanguageTest {
             }
         }
         longMethods(source);
+        Map<String, Set<String>> called = callsByName(code);
+        due("rule 11: methods that were found in the source", called.size() > 100 ? 1 : 0, 1);
+        for (String name : called.keySet()) {
+            due("rules 8, 11: calls behind " + name + "() go eight deep at most, and none calls itself", depth(name, called, 1) <= 8 ? 1 : 0, 1);
+        }
+    }
+
+    /** What each method calls, by name alone: methods of one name count as one, those of the library have none behind them. */
+    private static Map<String, Set<String>> callsByName(String code) {
+        Map<String, Set<String>> called = new HashMap<>();
+        Matcher head = Pattern.compile("(?m)^( {4}| {8})(?:[\\w\\[\\]]+ )*(\\w+)\\([^)]*\\) \\{$").matcher(code);
+        while (head.find()) {
+            int end = code.indexOf("\n" + head.group(1) + "}\n", head.end());
+            Matcher call = Pattern.compile("\\b(?!if\\b|for\\b|switch\\b|return\\b)(\\w+)\\(").matcher(code.substring(head.end(), end));
+            Set<String> names = called.computeIfAbsent(head.group(2), name -> new HashSet<>());
+            while (call.find()) {
+                names.add(call.group(1));
+            }
+        }
+        return called;
+    }
+
+    /** How many calls stand open at most from this one on; one that comes around to itself is too deep at once. */
+    private static int depth(String name, Map<String, Set<String>> called, int open) {
+        int deepest = open;
+        for (String next : open > 20 ? Set.<String>of() : called.getOrDefault(name, Set.of())) {
+            deepest = Math.max(deepest, depth(next, called, open + 1));
+        }
+        return deepest;
     }
 
     /** Methods of the class and of those inside it begin at four or eight blanks, and end there. */
